@@ -583,6 +583,15 @@ public final class WideNames {
             return at >= 0 ? values[at] : 0;
         }
 
+        /** The ranks of a row of points, in its order. */
+        void takeAll(Row of, Row to) {
+            to.clear();
+            for (int i = 0; i < of.size(); i++) {
+                int at = find(of.at(i));
+                to.append(at >= 0 ? values[at] : 0);
+            }
+        }
+
         private int find(int point) {
             if (point < 128) {
                 return -1;
@@ -704,12 +713,18 @@ public final class WideNames {
             return -1;
         }
 
-        /** Whether there was room for all the parts of a syllable. */
-        static boolean appendSyllable(int syllable, Row to) {
-            int s = syllable - FIRST_SYLLABLE;
-            boolean fits = to.append(FIRST_LEAD + s / PER_LEAD)
-                    && to.append(FIRST_VOWEL + s % PER_LEAD / PER_VOWEL);
-            return fits && (s % PER_VOWEL == 0 || to.append(BEFORE_TAILS + s % PER_VOWEL));
+        static int leadOf(int syllable) {
+            return FIRST_LEAD + (syllable - FIRST_SYLLABLE) / PER_LEAD;
+        }
+
+        static int vowelOf(int syllable) {
+            return FIRST_VOWEL + (syllable - FIRST_SYLLABLE) % PER_LEAD / PER_VOWEL;
+        }
+
+        /** The third part of a syllable, 0 if it has none. */
+        static int tailOf(int syllable) {
+            int tail = (syllable - FIRST_SYLLABLE) % PER_VOWEL;
+            return tail == 0 ? 0 : BEFORE_TAILS + tail;
         }
 
         /** What two points come TOGETHER into, or NONE. */
@@ -735,6 +750,7 @@ public final class WideNames {
         private final Partings partings;
         private final Ranks ranks;
         private final int[] pending;
+        // The ranks of the row that is being formed, in its order.
         private final Row besides;
 
         Forms(Partings partings, Ranks ranks) {
@@ -748,15 +764,23 @@ public final class WideNames {
         boolean takeApart(Row from, Row to) {
             to.clear();
             for (int i = 0; i < from.size(); i++) {
-                if (!appendParts(from.at(i), to)) {
+                int point = from.at(i);
+                if (!(Partings.isSyllable(point) ? appendSyllable(point, to) : appendParts(point, to))) {
                     return false;
                 }
             }
-            takeRanks(to);
+            ranks.takeAll(to, besides);
             sortByRanks(to);
             return true;
         }
 
+        private static boolean appendSyllable(int syllable, Row to) {
+            int tail = Partings.tailOf(syllable);
+            return to.append(Partings.leadOf(syllable)) && to.append(Partings.vowelOf(syllable))
+                    && (tail == 0 || to.append(tail));
+        }
+
+        /** Syllables are parts of nothing, so none comes up here. */
         private boolean appendParts(int point, Row to) {
             int waiting = 1;
             pending[0] = point;
@@ -765,7 +789,7 @@ public final class WideNames {
                 int next = pending[waiting];
                 int at = partings.find(next);
                 if (at < 0) {
-                    if (!appendWhole(next, to)) {
+                    if (!to.append(next)) {
                         return false;
                     }
                 } else {
@@ -781,18 +805,6 @@ public final class WideNames {
                 }
             }
             return waiting == 0;
-        }
-
-        private static boolean appendWhole(int point, Row to) {
-            return Partings.isSyllable(point) ? Partings.appendSyllable(point, to) : to.append(point);
-        }
-
-        /** Looks up each rank once; besides keeps them in the order of the row. */
-        private void takeRanks(Row of) {
-            besides.clear();
-            for (int i = 0; i < of.size(); i++) {
-                besides.append(ranks.of(of.at(i)));
-            }
         }
 
         /** A point goes before all neighbours of a higher rank; one of rank 0 neither moves nor is passed. */
@@ -939,7 +951,7 @@ public final class WideNames {
         }
 
         private static int threshold(int k, int bias) {
-            return Math.max(1, Math.min(26, k - bias));
+            return k - bias < 1 ? 1 : k - bias > 26 ? 26 : k - bias;
         }
 
         private static int adapted(long delta, int points, boolean firstTime) {
@@ -1384,7 +1396,7 @@ public final class WideNames {
                 if (i == points.size() || points.at(i) == DOT) {
                     label.clear();
                     label.appendFrom(points, start, i);
-                    if (label.size() > 0 && !lookAtLabel()) {
+                    if (label.size() > 0 && !(unfoldLabel() && followsRules())) {
                         return false;
                     }
                     labels.append(label);
@@ -1394,10 +1406,7 @@ public final class WideNames {
             return true;
         }
 
-        private boolean lookAtLabel() {
-            if (hasPrefix() && !unfoldLabel()) {
-                return false;
-            }
+        private boolean followsRules() {
             int found = rules.look(label);
             return found == LabelRules.WELL || fail(found, labels.count(), rules.place());
         }
@@ -1406,7 +1415,11 @@ public final class WideNames {
             return label.at(0) == 'x' && label.at(1) == 'n' && label.at(2) == '-' && label.at(3) == '-';
         }
 
+        /** A label with the prefix stands for what is decoded of it from here on. */
         private boolean unfoldLabel() {
+            if (!hasPrefix()) {
+                return true;
+            }
             int which = labels.count();
             int place = Letters.unfold(label, PREFIX_SIZE, spare);
             if (place != Letters.WELL) {
