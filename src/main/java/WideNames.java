@@ -1170,25 +1170,21 @@ public final class WideNames {
         }
 
         private int lookAtJoiners(Row label) {
-            // Looked up at the first point that asks for them: most labels have none.
             joinings.clear();
             for (int i = 0; i < label.size(); i++) {
                 int point = label.at(i);
                 boolean asks = point == NON_JOINER_POINT || point == JOINER_POINT;
                 if (asks && ranks.of(label.at(i - 1)) != RANK_BEFORE_JOINERS) {
-                    takeJoinings(label);
+                    // Looked up when they are asked for, and once: most labels have no such point.
+                    for (int k = joinings.size(); k < label.size(); k++) {
+                        joinings.append(ranges.of(Ranges.JOININGS, label.at(k)));
+                    }
                     if (point == JOINER_POINT || !standsBetweenJoining(i)) {
                         return found(JOINER, i);
                     }
                 }
             }
             return WELL;
-        }
-
-        private void takeJoinings(Row label) {
-            for (int i = joinings.size(); i < label.size(); i++) {
-                joinings.append(ranges.of(Ranges.JOININGS, label.at(i)));
-            }
         }
 
         private boolean standsBetweenJoining(int i) {
