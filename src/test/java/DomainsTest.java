@@ -6,6 +6,7 @@ public final class DomainsTest {
 
     public static void main(String[] args) {
         ordinary();
+        octetsOfPoints();
         faultsOfRead();
         mapping();
         mappingRoom();
@@ -46,6 +47,23 @@ public final class DomainsTest {
         C.due("19: octet(-1)", x.octet(-1), -1);
         C.due("19: octet(4)", x.octet(4), -1);
         C.due("19: octet(the greatest int)", x.octet(Integer.MAX_VALUE), -1);
+    }
+
+    /** The first and the last points of one, two, three and four octets. */
+    private static void octetsOfPoints() {
+        WideNames x = new WideNames();
+        x.status(127, 127, 0);
+        C.dueMade(x, "\u007f\u0080", false, "\u007f\u0080", 1);
+        C.dueMade(x, "\u007f", true, "\u007f", 1);
+        C.dueFault(x, "xn--\u007f-", false, 32, 0, 0, 0);
+        C.dueMade(x, "\u0080", true, "xn--a", 1);
+        int[] edges = {128, 129, 191, 192, 2047, 2048, 2049, 4095, 4096, 8191, 8192, 55295, 57344, 61440, 65535, 65536,
+            65537, 131071, 196608, 262143, 262144, 262145, 524287, 524288, 786432, 1048575, 1048576, 1114111};
+        for (int p : edges) {
+            C.dueMade(x, of(p), false, of(p), 1);
+            C.dueMade(x, of('a', p), true, coded('a', p), 1);
+            C.dueMade(x, coded('a', p), false, of('a', p), 1);
+        }
     }
 
     private static void faultsOfRead() {
@@ -158,7 +176,9 @@ public final class DomainsTest {
         x.status('X', 'X', 0);
         C.dueFault(x, "Xn-.a", false, 42, 0, 2, 0);
         C.dueFault(x, "Xn--tda", false, 41, 0, 2, 0);
-        C.dueMade(x, "xn-x", false, "xn-x", 1);
+        C.dueMade(x, "xn-x.xna-b.xn", false, "xn-x.xna-b.xn", 3);
+        C.dueFault(x, "xa--tda", false, 41, 0, 2, 0);
+        C.dueFault(x, "an--tda", false, 41, 0, 2, 0);
         x.status('X', 'X', 3);
         C.dueFault(x, "xn--X-kva", false, 20, 0, 4, 0);
         x.status('T', 'T', 0);

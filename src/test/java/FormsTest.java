@@ -47,6 +47,9 @@ public final class FormsTest {
         C.due("12: apart, one of one", formOf(x, 0, 7003), 97, 768);
         C.due("12: apart, EXCLUDED", formOf(x, 0, 7004), 98, 768);
         C.due("12: apart, others stay", formOf(x, 0, 65, 7005, 1114111), 65, 7005, 1114111);
+        x.parts(128, 127, 126, false);
+        C.due("12: apart, the least of points that have parts", formOf(x, 0, 128, 127), 127, 126, 127);
+        formOf(x, 0, 65, 7005, 1114111);
         C.due("12: no such kind", x.form(2), -2);
         C.due("12: no such kind", x.form(-1), -2);
         C.due("12: the row as it was", Checks.row(x), 65, 7005, 1114111);

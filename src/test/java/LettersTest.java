@@ -93,6 +93,9 @@ public final class LettersTest {
 
     private static void decodeOthers() {
         C.due("16: capitals", decodeOf("bCHER-KVA"), Checks.points("b\u00fcCHER"));
+        C.due("16: all capitals", decodeOf("TDAA"), Checks.points("\u00fc\u00fc"));
+        C.due("16: A", decodeOf("A"), 128);
+        C.due("16: Z", decodeOf("ZZZZZA"), decodeOf("zzzzza"));
         C.due("16: nothing behind the last -", decodeOf("a-b-"), Checks.points("a-b"));
         C.due("16: - before the last -", decodeOf("--"), Checks.points("-"));
         C.due("16: - before the last -", decodeOf("--tda"), 190, '-');
@@ -129,6 +132,10 @@ public final class LettersTest {
         int[] most = number(Integer.MAX_VALUE);
         C.due("16: i = 2^31 - 1", decodeOf(letters(most)), -10 - (most.length - 1));
         C.due("16: i = 2^31 - 1, and more letters", decodeOf(letters(most) + "a"), -10 - (most.length - 1));
+        // Here i is there before the number's last digit, which is a 0: 2^31 - 1 may stand, 2^31 may not.
+        C.due("16: two numbers", decodeOf("aaaa-r36nx9200d").length, 6);
+        C.due("16: i = 2^31 - 1 before the last digit", decodeOf("aaaa-r36nx9200dr4cx096a"), -10 - 22);
+        C.due("16: i = 2^31 before the last digit", decodeOf("aaaa-r36nx9200ds4cx096a"), -10 - 21);
         int[] more = number(Integer.MAX_VALUE + 1L);
         C.due("16: i = 2^31", decodeOf(letters(more) + "a"), -10 - (more.length - 1));
     }
