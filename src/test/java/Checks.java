@@ -1,8 +1,15 @@
 import java.nio.charset.StandardCharsets;
 import java.util.Arrays;
+import java.util.function.ToIntFunction;
 
 /** What the tests share: counting of answers, and runs of calls that come up again and again. */
 final class Checks {
+    static final int TOP = 1114111;
+    /** Below all POINTS, in their gap and above them. */
+    static final int[] NO_POINTS = {-1, Integer.MIN_VALUE, 55296, 55297, 57342, 57343, TOP + 1, Integer.MAX_VALUE};
+    /** The points beside those. */
+    static final int[] LAST_POINTS = {0, 1, 55294, 55295, 57344, 57345, TOP - 1, TOP};
+
     private int wrong = 0;
     private int right = 0;
 
@@ -20,8 +27,13 @@ final class Checks {
             right++;
         } else {
             wrong++;
-            System.out.println(what + ": is " + Arrays.toString(got) + ", due is " + Arrays.toString(want));
+            System.out.println(what + ": is " + shortly(got) + ", due is " + shortly(want) + ", differs at "
+                    + Arrays.mismatch(got, want));
         }
+    }
+
+    private static String shortly(int... row) {
+        return row.length > 40 ? row.length + " of " + Arrays.toString(Arrays.copyOf(row, 40)) : Arrays.toString(row);
     }
 
     void due(String what, boolean holds) {
@@ -36,7 +48,7 @@ final class Checks {
     }
 
     /** THE TEXT is these octets alone. */
-    static void text(WideNames x, int... octets) {
+    static Names text(Names x, int... octets) {
         x.feed(0, 0);
         int i = 0;
         while (i < octets.length) {
@@ -48,10 +60,11 @@ final class Checks {
             x.feed(v, n);
             i += n;
         }
+        return x;
     }
 
-    static void text(WideNames x, String s) {
-        text(x, octets(s));
+    static Names text(Names x, String s) {
+        return text(x, octets(s));
     }
 
     static int[] octets(String s) {
@@ -67,8 +80,19 @@ final class Checks {
         return s.codePoints().toArray();
     }
 
+    static String of(int... points) {
+        return new String(points, 0, points.length);
+    }
+
+    /** A label of few letters that stands for these points. */
+    static String coded(int... points) {
+        Names x = row(new Names(), points);
+        x.encode();
+        return "xn--" + of(row(x));
+    }
+
     /** The row at hand is these points alone. */
-    static WideNames row(WideNames x, int... points) {
+    static Names row(Names x, int... points) {
         x.add(-1);
         for (int p : points) {
             x.add(p);
@@ -76,12 +100,8 @@ final class Checks {
         return x;
     }
 
-    static WideNames row(WideNames x, String s) {
+    static Names row(Names x, String s) {
         return row(x, points(s));
-    }
-
-    static WideNames rowOf(int count, int point) {
-        return row(new WideNames(), many(count, point));
     }
 
     static int[] many(int count, int value) {
@@ -95,47 +115,104 @@ final class Checks {
     }
 
     /** The row at hand, asked point by point. */
-    static int[] row(WideNames x) {
-        int[] points = new int[1000];
+    static int[] row(Names x) {
+        int[] points = new int[Names.MOST_CALLS];
         int n = 0;
-        while (n < points.length && x.point(n) != -1) {
-            points[n] = x.point(n);
+        int p = x.point(0);
+        while (p != -1) {
+            points[n] = p;
             n++;
+            p = x.point(n);
         }
         return Arrays.copyOf(points, n);
     }
 
     /** What was made last, asked octet by octet. */
-    static int[] made(WideNames x) {
-        int[] octets = new int[5000];
+    static int[] made(Names x) {
+        int[] octets = new int[Names.MOST_CALLS];
         int n = 0;
-        while (n < octets.length && x.octet(n) != -1) {
-            octets[n] = x.octet(n);
+        int o = x.octet(0);
+        while (o != -1) {
+            octets[n] = o;
             n++;
+            o = x.octet(n);
         }
         return Arrays.copyOf(octets, n);
     }
 
-    static int[] faults(WideNames x) {
+    static int[] faults(Names x) {
         return new int[] {x.fault(0), x.fault(1), x.fault(2), x.fault(3)};
     }
 
     /** A domain is made of a text without a fault, and is what is due. */
-    void dueMade(WideNames x, String from, boolean plain, String want, int labels) {
-        text(x, from);
+    void dueMade(Told tables, String from, boolean plain, String want, int labels) {
         String call = "make(" + plain + ") of " + from;
-        due(call, x.make(plain), octets(want).length);
-        due(call + ", its octets", made(x), octets(want));
+        int[] octets = octets(want);
+        Names x = text(tables.fresh(), from);
+        due(call, x.make(plain), octets.length);
         due(call + ", fault()", faults(x), 0, 0, 0, labels);
+        for (int i = 0; i <= octets.length; i++) {
+            if (x.left() == 0) {
+                x = text(tables.fresh(), from);
+                x.make(plain);
+            }
+            due(call + ", octet(" + i + ")", x.octet(i), i < octets.length ? octets[i] : -1);
+        }
     }
 
-    /** A domain is not made of a text: the fault, its label, its place, and how many labels are whole. */
-    void dueFault(WideNames x, String from, boolean plain, int... want) {
-        text(x, from);
+    /**
+     * A domain is not made of a text: the fault, its label, its place, and how many labels are whole; octets are told
+     * of what was made before.
+     */
+    void dueFault(Told tables, String from, boolean plain, int... want) {
+        dueFault(tables, octets(from), plain, want);
+    }
+
+    void dueFault(Told tables, int[] from, boolean plain, int... want) {
+        Names x = text(tables.fresh(), "q7");
+        x.make(false);
         int[] before = made(x);
-        String call = "make(" + plain + ") of " + from;
-        due(call, x.make(plain), -10 - want[0]);
+        String call = "make(" + plain + ") of " + shortly(from);
+        due(call, text(x, from).make(plain), -10 - want[0]);
         due(call + ", fault()", faults(x), want);
         due(call + ", octets of before", made(x), before);
+    }
+
+    /** A call on a fresh object. */
+    void due(String what, Told before, ToIntFunction<Names> call, int want) {
+        due(what, call.applyAsInt(before.fresh()), want);
+    }
+
+    /** A call on a fresh object that answers how many points the row at hand has then. */
+    void dueRow(String what, Told before, ToIntFunction<Names> call, int... want) {
+        Names x = before.fresh();
+        due(what + ", how many", call.applyAsInt(x), want.length);
+        due(what, row(x), want);
+    }
+
+    /**
+     * A call is refused, and changes nothing: an object that was refused it answers all else as one that was never
+     * asked. The points are those of which more is asked.
+     */
+    void refused(String what, Told before, ToIntFunction<Names> call, int want, int... points) {
+        due(what, before, call, want);
+        dueAlike(what, before, call, Looks.COUNT, points);
+    }
+
+    /** A domain is not made of a text: this changes nothing but what fault() tells. */
+    void refusedMake(Told tables, int[] from, boolean plain, int... want) {
+        dueFault(tables, from, plain, want);
+        Told before = tables.copy().text("q7").then(x -> x.make(false)).row('r', 's').text(from);
+        dueAlike("make(" + plain + ") of " + shortly(from), before, x -> x.make(plain), Looks.COUNT - 1);
+    }
+
+    private void dueAlike(String what, Told before, ToIntFunction<Names> call, int looks, int... points) {
+        for (int look = 0; look < looks; look++) {
+            Names asked = before.fresh();
+            call.applyAsInt(asked);
+            int most = asked.left();
+            int[] got = new Looks(asked, most, points).at(look);
+            due(what + ", and changes nothing (" + look + ")", got, new Looks(before.fresh(), most, points).at(look));
+        }
     }
 }

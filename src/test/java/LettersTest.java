@@ -1,7 +1,10 @@
+import java.util.Arrays;
+
 /** Promises 15 and 16: encode, decode. */
 public final class LettersTest {
     private static final Checks C = new Checks();
-    private static final int TOP = 1114111;
+    private static final Told NEW = new Told();
+    private static final int TOP = Checks.TOP;
 
     /** Rows and what they are ENCODED: the samples of RFC 3492, chapter 7.1, and small ones. */
     private static final String[][] PAIRS = {
@@ -34,116 +37,364 @@ public final class LettersTest {
         {"-> $1.00 <-", "-> $1.00 <--"},
     };
 
+    /**
+     * Points alone, and what they are ENCODED, by another program: the last and the first of one, two, three, four and
+     * five digits, the digits at the ends of a .. z and 0 .. 9, and the edges of the POINTS.
+     */
+    private static final String[][] ALONE = {{"128", "a"}, {"129", "ba"}, {"130", "ca"}, {"153", "za"}, {"154", "0a"},
+        {"162", "8a"}, {"163", "9a"}, {"164", "bba"}, {"165", "cba"}, {"198", "9ba"}, {"199", "bca"}, {"32013", "99z"},
+        {"32014", "bb0a"}, {"55295", "hb9b"}, {"57344", "0y0c"}, {"350513", "999z"}, {"350514", "bb00a"},
+        {"1114111", "dn32g"}};
+
+    /**
+     * Rows and what they are ENCODED, by another program: with numbers at t - 1, t and t + 1, with k - bias of 3, 24 to
+     * 28, and with delta of 454 to 457 once and again when the bias is ADAPTED, the first time and later.
+     */
+    private static final String[][] AT_THE_EDGES = {
+        {"18680 10949 305 170744", "cfa104sw6s2u04c"},
+        {"160106 202780 499875", "2u4ks25vku19a"},
+        {"528982 255940 807942", "622sn021k5flv"},
+        {"686 52439 698", "7pay8222l"},
+        {"949876 501136 302 846366", "8ea18721hgqfyw8wj"},
+        {"59734 42684 51506 269847 122", "z-1q3es62gk40ahv17f"},
+        {"260 10872", "1da833s"},
+        {"46750 4626", "sxd1635f"},
+        {"449 144", "qa32d"},
+        {"457447 86580", "cu4e1040v"},
+        {"892 217 565", "tca01e81a"},
+        {"638 20303 332", "3fa52du99n"},
+        {"280870 97 616", "a-61a47815f"},
+        {"4194 627718 975270", "gld26185jgflya"},
+        {"97 98 79866", "ab-0j9q"},
+        {"9452 17460 168", "fba186poov"},
+        {"566 122 280462", "z-bza30805f"},
+        {"502 850232 492320", "yka05749gfsbza"},
+        {"98 623 8591", "b-l2a810v"},
+        {"21902 664 15358", "lpa2050a49p"},
+        {"668 370 440 799344", "6ga4l6zj3297g"},
+        {"46318 752403 503094 9898", "f8hz513ciw91dpcjx"},
+        {"98 842217 540832 1112566", "b-o169f8078ic1hz"},
+        {"18336 42949 32040 338982", "i4o238kbz0anw59f"},
+        {"288 501 501 98", "b-fja35da"},
+        {"780301 98 64347 98 122", "bbz-my3sd3933h"},
+        {"122 394 395 177 870371", "z-3ca46dea599064b"},
+        {"323850 888850 60827 668823 129", "ba9052j2ex1aspe8ancxza"},
+        {"153 14013 335 122 122", "zz-fca24en68r"},
+        {"31331 22927 12990 97 816563", "a-88u623lpp1adb030a"},
+        {"498 36689 489 635387 505", "lkarw8485llx29h"},
+        {"1046916 98 97 63831 122", "baz-o91sg6600m"},
+        {"784210 632172 122 428 270995", "z-gra51822fkmy9aytzr"},
+        {"98 178 272155 458 682", "b-5ca45fvz25989a"},
+        {"349 122 348 170 98", "zb-wda52eda"},
+        {"57344 356527 153 36134 582396", "za6703e766bm6y0dc6l0a"},
+        {"184 466 500 465 9694", "vba67cc0l982q"},
+    };
+
     public static void main(String[] args) {
-        pairs();
-        encodeRoom();
-        decodeOthers();
-        decodeFaults();
-        decodeTooGreat();
+        encodedAndDecoded();
+        encodedAlone();
+        encodedAtTheEdges();
+        encodedBelow128();
+        encodedTo300();
+        encodedFull();
+        decodedCapitals();
+        decodedFromTheLastDash();
+        decodedTo300();
+        decodedPlaces();
+        faultOfNoneBelow128();
+        faultOfNoDigit();
+        faultOfTheEnd();
+        faultAbove31Bits();
+        faultOfNoPoint();
+        refusedDecodeChangesNothing();
         C.end();
     }
 
-    private static void pairs() {
-        WideNames x = new WideNames();
+    private static int[] row(int... points) {
+        return points;
+    }
+
+    private static int[] rowOf(String numbers) {
+        return Arrays.stream(numbers.split(" ")).mapToInt(Integer::parseInt).toArray();
+    }
+
+    private static void dueBoth(int[] from, String letters) {
+        C.dueRow("15: encode() of " + Arrays.toString(from), NEW.copy().row(from), Names::encode,
+                Checks.points(letters));
+        C.dueRow("16: decode() of " + letters, NEW.copy().row(Checks.points(letters)), Names::decode, from);
+    }
+
+    private static void dueDecoded(String letters, int... want) {
+        C.dueRow("16: decode() of " + letters, NEW.copy().row(Checks.points(letters)), Names::decode, want);
+    }
+
+    private static void dueFault(String letters, int place) {
+        C.due("16: decode() of " + letters, NEW.copy().row(Checks.points(letters)), Names::decode, -10 - place);
+    }
+
+    // 15: "The row at hand is ENCODED, and is that then: how many points. -4 FULL, or more than 300."
+
+    private static void encodedAndDecoded() {
         for (String[] pair : PAIRS) {
-            int[] row = Checks.points(pair[0]);
-            int[] letters = Checks.points(pair[1]);
-            Checks.row(x, row);
-            C.due("15: encode() of " + pair[0], x.encode(), letters.length);
-            C.due("15: encoded " + pair[0], Checks.row(x), letters);
-            C.due("16: decode() of " + pair[1], x.decode(), row.length);
-            C.due("16: decoded " + pair[1], Checks.row(x), row);
+            dueBoth(Checks.points(pair[0]), pair[1]);
         }
     }
 
-    private static void encodeRoom() {
-        WideNames x = Checks.rowOf(299, 'a');
-        C.due("15: encode() to 300", x.encode(), 300);
-        C.due("15: encode() to 301", x.encode(), -4);
-        C.due("15: the row as it was", Checks.row(x), Checks.join(Checks.many(299, 'a'), new int[] {'-'}));
-        x = Checks.rowOf(297, 252);
-        C.due("15: encode() of 297 of one point", x.encode(), 299);
-        C.due("16: and back", x.decode(), 297);
-        x = Checks.rowOf(298, 252);
+    private static void encodedAlone() {
+        for (String[] pair : ALONE) {
+            int p = Integer.parseInt(pair[0]);
+            dueBoth(row(p), pair[1]);
+            dueBoth(row(p, p), pair[1] + "a");
+        }
+        dueBoth(row(128, TOP), "a08093t");
+        dueBoth(row(TOP, 128), "a97093t");
+    }
+
+    private static void encodedAtTheEdges() {
+        for (String[] pair : AT_THE_EDGES) {
+            dueBoth(rowOf(pair[0]), pair[1]);
+        }
+    }
+
+    /** "the points below 128 in order; a - if there is one at least" */
+    private static void encodedBelow128() {
+        dueBoth(row(), "");
+        dueBoth(row(0), "\u0000-");
+        dueBoth(row(127), "\u007f-");
+        dueBoth(row(128), "a");
+        dueBoth(row(127, 128), "\u007f-ba");
+        dueBoth(row(128, 127), "\u007f-a");
+        dueBoth(row('a', 'b', 128), "ab-ca");
+        dueBoth(row('a', 128, 'b'), "ab-ba");
+        dueBoth(row(128, 'a', 'b'), "ab-a");
+        dueBoth(row('b', 'A', '.', '!'), "bA.!-");
+        dueBoth(row('-', 128), "--ba");
+        dueBoth(row(128, '-'), "--a");
+        dueBoth(row('-'), "--");
+        dueBoth(row('-', '-'), "---");
+    }
+
+    private static Told read(String s) {
+        return NEW.copy().text(s).then(Names::read);
+    }
+
+    private static void encodedTo300() {
+        C.dueRow("15: encode() of 298 to 299", read("a".repeat(298)), Names::encode,
+                Checks.points("a".repeat(298) + "-"));
+        C.dueRow("15: encode() of 299 to 300", read("a".repeat(299)), Names::encode,
+                Checks.points("a".repeat(299) + "-"));
+        C.refused("15: encode() of 300 to 301", read("a".repeat(300)), Names::encode, -4);
+        C.dueRow("15: 298 and a digit, to 300", read("a".repeat(296) + "\u0080"), Names::encode,
+                Checks.points("a".repeat(296) + "-" + letters(number(296))));
+        dueEncodedSize(297, "\u0080", 2, 300);
+        dueEncodedSize(298, "\u0080", 2, -4);
+        dueEncodedSize(298, "\u0080", 1, 300);
+        dueEncodedSize(299, "\u0080", 1, -4);
+        Names x = NEW.copy().row(Checks.many(298, 252)).fresh();
         C.due("15: encode() of 298 of one point", x.encode(), 300);
+        C.due("15: its first digits", row(x.point(0), x.point(1), x.point(2), x.point(3), x.point(299)),
+                't', 'd', 'a', 'a', 'a');
         C.due("16: and back", x.decode(), 298);
-        C.due("16: is what it was", Checks.row(x), Checks.many(298, 252));
-        x = Checks.rowOf(299, 252);
-        C.due("15: encode() of 299 of one point", x.encode(), -4);
-        C.due("15: the row as it was", Checks.row(x), Checks.many(299, 252));
-        x = Checks.row(new WideNames(), Checks.join(Checks.many(60, 128), Checks.many(240, TOP)));
-        C.due("15: encode() of 300", x.encode(), -4);
-        x = Checks.row(new WideNames(), 128, TOP);
-        int n = x.encode();
-        C.due("15: encode() of the first and the last", n > 0);
-        C.due("16: and back", x.decode(), 2);
-        C.due("16: is what it was", Checks.row(x), 128, TOP);
+        C.due("16: is what it was", x.point(297), 252);
+        C.refused("15: encode() of 299 of one point", NEW.copy().row(Checks.many(299, 252)), Names::encode, -4);
+        C.refused("15: encode() of 300 of one point", NEW.copy().row(Checks.many(300, 252)), Names::encode, -4);
+        C.refused("15: encode() of far more", NEW.copy().row(Checks.join(Checks.many(60, 128), Checks.many(240, TOP))),
+                Names::encode, -4);
     }
 
-    private static int[] decodeOf(String letters) {
-        WideNames x = Checks.row(new WideNames(), letters);
-        int answer = x.decode();
-        if (answer < 0) {
-            C.due("16: the row as it was", Checks.row(x), Checks.points(letters));
-            return new int[] {answer};
+    /** Letters a, and a point 128 before them all, so that the number is 0, or behind the first one: it is 1. */
+    private static void dueEncodedSize(int letters, String wide, int digits, int want) {
+        String s = digits == 1 ? wide + "a".repeat(letters) : "a" + wide + "a".repeat(letters - 1);
+        String what = "15: encode() of " + letters + " letters and a point";
+        if (want < 0) {
+            C.refused(what, read(s), Names::encode, want);
+        } else {
+            C.due(what, read(s), Names::encode, want);
         }
-        C.due("16: how many points", answer, Checks.row(x).length);
-        return Checks.row(x);
     }
 
-    private static void decodeOthers() {
-        C.due("16: capitals", decodeOf("bCHER-KVA"), Checks.points("b\u00fcCHER"));
-        C.due("16: all capitals", decodeOf("TDAA"), Checks.points("\u00fc\u00fc"));
-        C.due("16: A", decodeOf("A"), 128);
-        C.due("16: Z", decodeOf("ZZZZZA"), decodeOf("zzzzza"));
-        C.due("16: nothing behind the last -", decodeOf("a-b-"), Checks.points("a-b"));
-        C.due("16: - before the last -", decodeOf("--"), Checks.points("-"));
-        C.due("16: - before the last -", decodeOf("--tda"), 190, '-');
-        C.due("16: in at the beginning", decodeOf("bc-uia"), Checks.points("\u00e4bc"));
-    }
-
-    private static void decodeFaults() {
-        C.due("16: - alone", decodeOf("-"), -10);
-        C.due("16: - first", decodeOf("-tda"), -10);
-        C.due("16: no digit", decodeOf("td."), -12);
-        C.due("16: no digit first", decodeOf(" tda"), -10);
-        C.due("16: no digit, behind the last -", decodeOf("b-!"), -12);
-        C.due("16: not what is about the digits", decodeOf("/") [0] + decodeOf(":")[0], -20);
-        C.due("16: not what is about the letters", decodeOf("`")[0] + decodeOf("{")[0], -20);
-        C.due("16: not what is about the capitals", decodeOf("@")[0] + decodeOf("[")[0], -20);
-        C.due("16: a digit had to come", decodeOf("td"), -12);
-        C.due("16: a digit had to come, behind the last -", decodeOf("bcher-kv"), -18);
-        C.due("16: none below 128, before all others", decodeOf("!!\u00fc"), -12);
-        C.due("16: none below 128, in the beginning", decodeOf("\u0080-tda"), -10);
-        C.due("16: none below 128, the first", decodeOf("a\u00fc\u00fc!"), -11);
-    }
-
-    private static void decodeTooGreat() {
-        C.due("16: i too great", decodeOf("99999999"), -10 - 7);
-        C.due("16: i too great, behind the last -", decodeOf("a-99999999")[0], decodeOf("99999999")[0] - 2);
-        int[] last = encoded(TOP);
-        C.due("16: the last of the points", decodeOf(letters(last)), TOP);
-        C.due("16: above the points", decodeOf(letters(number(TOP + 1 - 128))), -10 - (last.length - 1));
-        C.due("16: the last before the gap", decodeOf(letters(number(55295 - 128))), 55295);
-        int[] gap = number(55296 - 128);
-        C.due("16: the first in the gap", decodeOf(letters(gap)), -10 - (gap.length - 1));
-        C.due("16: the last in the gap", decodeOf(letters(number(57343 - 128))), -10 - (gap.length - 1));
-        C.due("16: the first behind the gap", decodeOf(letters(number(57344 - 128))), 57344);
-        int[] most = number(Integer.MAX_VALUE);
-        C.due("16: i = 2^31 - 1", decodeOf(letters(most)), -10 - (most.length - 1));
-        C.due("16: i = 2^31 - 1, and more letters", decodeOf(letters(most) + "a"), -10 - (most.length - 1));
-        // Here i is there before the number's last digit, which is a 0: 2^31 - 1 may stand, 2^31 may not.
-        C.due("16: two numbers", decodeOf("aaaa-r36nx9200d").length, 6);
-        C.due("16: i = 2^31 - 1 before the last digit", decodeOf("aaaa-r36nx9200dr4cx096a"), -10 - 22);
-        C.due("16: i = 2^31 before the last digit", decodeOf("aaaa-r36nx9200ds4cx096a"), -10 - 21);
-        int[] more = number(Integer.MAX_VALUE + 1L);
-        C.due("16: i = 2^31", decodeOf(letters(more) + "a"), -10 - (more.length - 1));
-    }
-
-    private static int[] encoded(int... points) {
-        WideNames x = Checks.row(new WideNames(), points);
+    /** The greatest of all numbers within 300 points is far below 2^31: nothing is FULL. */
+    private static void encodedFull() {
+        String s = "a".repeat(290) + Checks.of(TOP);
+        C.dueRow("15: a great number", read(s), Names::encode, Checks.points("a".repeat(290) + "-ib2475x"));
+        C.due("16: and back", read(s).then(Names::encode), Names::decode, 291);
+        Names x = read("ab").fresh();
         x.encode();
-        return Checks.row(x);
+        C.due("15: THE TEXT is as it was", x.read(), 2);
+        x.decode();
+        x.decode();
+        C.due("16: THE TEXT is as it was", x.read(), 2);
+    }
+
+    // 16: "The row at hand is DECODED, and is that then: how many points; -10 less the place of a fault (FULL, too)."
+
+    /** "digits, A .. Z like a .. z" */
+    private static void decodedCapitals() {
+        for (int d = 0; d < 26; d++) {
+            String small = "" + (char) ('a' + d);
+            String big = "" + (char) ('A' + d);
+            int p = d == 0 ? 128 : 127 + d + 1;
+            dueDecoded(small + (d == 0 ? "" : "a"), p);
+            dueDecoded(big + (d == 0 ? "" : "A"), p);
+        }
+        dueDecoded("0a", 154);
+        dueDecoded("9A", 163);
+        dueDecoded("bCHER-KVA", Checks.points("b\u00fcCHER"));
+        dueDecoded("TDAA", 252, 252);
+        dueDecoded("tDaA", 252, 252);
+        dueDecoded("A-A", 128, 'A');
+        dueDecoded("99Z", 32013);
+    }
+
+    /** "those before the last - (if there is one, and it is not the first point) are the beginning" */
+    private static void decodedFromTheLastDash() {
+        dueDecoded("");
+        dueDecoded("a", 128);
+        dueDecoded("a-", 'a');
+        dueDecoded("a-a", 128, 'a');
+        dueDecoded("a--", 'a', '-');
+        dueDecoded("a-b-", 'a', '-', 'b');
+        dueDecoded("a-b-a", 128, 'a', '-', 'b');
+        dueDecoded("--", '-');
+        dueDecoded("--a", 128, '-');
+        dueDecoded("---", '-', '-');
+        dueDecoded("--tda", 190, '-');
+        dueDecoded("!-a", 128, '!');
+        dueFault("-", 0);
+        dueFault("-a", 0);
+        dueFault("-tda", 0);
+        dueFault("a-!", 2);
+        dueFault("a-b", 3);
+    }
+
+    private static void decodedTo300() {
+        String s = "a".repeat(299);
+        C.dueRow("16: 299 and a -", read(s + "-"), Names::decode, Checks.many(299, 'a'));
+        C.dueRow("16: 300 digits", read(s + "a"), Names::decode, Checks.many(300, 128));
+        C.dueRow("16: 298, a - and a digit", read("a".repeat(298) + "-a"), Names::decode,
+                Checks.join(row(128), Checks.many(298, 'a')));
+        C.dueRow("16: a - and 298 digits", read("b-" + "a".repeat(298)), Names::decode,
+                Checks.join(Checks.many(298, 128), row('b')));
+        C.refused("16: no digit at the end of 300", read(s + "!"), Names::decode, -10 - 299);
+        C.refused("16: the end of 300", read(s + "0"), Names::decode, -10 - 300);
+        C.dueRow("16: z ends a number there", read(s + "z"), Names::decode,
+                Checks.join(Checks.many(24, 128), row(129), Checks.many(275, 128)));
+    }
+
+    /** "n grows by i / (length + 1), i is i % (length + 1); n comes in at i, i grows by 1" */
+    private static void decodedPlaces() {
+        dueDecoded("bc-uia", Checks.points("\u00e4bc"));
+        dueDecoded("abc-a", 128, 'a', 'b', 'c');
+        dueDecoded("abc-ba", 'a', 128, 'b', 'c');
+        dueDecoded("abc-ca", 'a', 'b', 128, 'c');
+        dueDecoded("abc-da", 'a', 'b', 'c', 128);
+        dueDecoded("abc-ea", 129, 'a', 'b', 'c');
+        dueDecoded("aa", 128, 128);
+        dueDecoded("ab", 129, 128);
+        dueDecoded("ac", 128, 129);
+        dueDecoded("ad", 130, 128);
+        dueDecoded("baa", 129, 129);
+    }
+
+    /** "at the first point that is none below 128 (before all others)" */
+    private static void faultOfNoneBelow128() {
+        for (int p : row(128, 129, 255, 1000, TOP)) {
+            String s = Checks.of(p);
+            dueFault(s, 0);
+            dueFault("a" + s, 1);
+            dueFault("-" + s, 1);
+            dueFault("!" + s, 1);
+            dueFault("!!" + s + "!" + s, 2);
+            dueFault(s + "-tda", 0);
+            dueFault("a" + s + "-tda", 1);
+            dueFault("a-99999999" + s, 10);
+            dueFault("a-td" + s, 4);
+            dueFault("a" + s + s, 1);
+        }
+        dueDecoded("\u007f-", 127);
+        dueDecoded("\u007f-a", 128, 127);
+        dueFault("\u007f", 0);
+        C.due("16: none below 128 as the last of 300", read("a".repeat(299) + "\u0080"), Names::decode, -10 - 299);
+    }
+
+    private static void faultOfNoDigit() {
+        for (char c : "/:@[`{ !.~\u0000\u007f".toCharArray()) {
+            dueFault("" + c, 0);
+            dueFault("a" + c, 1);
+            dueFault("b" + c, 1);
+            dueFault("td" + c, 2);
+            dueFault("b-" + c, 2);
+            dueFault("b-t" + c + "a", 3);
+            dueFault("" + c + c, 0);
+        }
+        for (char c : "azAZ09".toCharArray()) {
+            C.due("16: a digit is " + c, NEW.copy().row(c, 'a'), Names::decode, "aA".indexOf(c) >= 0 ? 2 : 1);
+        }
+    }
+
+    /** "or at the row's end, if a digit had to come" */
+    private static void faultOfTheEnd() {
+        dueFault("b", 1);
+        dueFault("B", 1);
+        dueFault("9", 1);
+        dueFault("bb", 2);
+        dueFault("td", 2);
+        dueFault("99", 2);
+        dueFault("990", 3);
+        dueDecoded("99z", 32013);
+        dueFault("tda0", 4);
+        // The second number's first t is 26, so 25 ends it: i is 26, that is 13 and 0 of two places.
+        dueDecoded("tdaz", 252 + 13, 252);
+        dueFault("a-b", 3);
+        dueFault("bcher-kv", 8);
+        dueFault("bcher-k", 7);
+    }
+
+    /** "at the digit with which i or w would be above 2^31 - 1" */
+    private static void faultAbove31Bits() {
+        dueFault("99999999", 7);
+        dueFault("a-99999999", 9);
+        dueFault("999999999999999999999999", 7);
+        int[] most = number(Integer.MAX_VALUE);
+        dueFault(letters(most), most.length - 1);
+        dueFault(letters(most) + "a", most.length - 1);
+        int[] more = number(Integer.MAX_VALUE + 1L);
+        dueFault(letters(more) + "a", more.length - 1);
+        // Here i is there before the number's last digit, which is a 0: 2^31 - 1 may stand, 2^31 may not.
+        C.due("16: two numbers", NEW.copy().row(Checks.points("aaaa-r36nx9200d")), Names::decode, 6);
+        dueFault("aaaa-r36nx9200dr4cx096a", 22);
+        dueFault("aaaa-r36nx9200ds4cx096a", 21);
+    }
+
+    /** "at the last digit of a number, if n would not be one of the POINTS" */
+    private static void faultOfNoPoint() {
+        dueDecoded(letters(number(TOP - 128)), TOP);
+        dueFault(letters(number(TOP + 1 - 128)), 4);
+        dueFault(letters(number(TOP + 1 - 128)) + "a", 4);
+        dueDecoded(letters(number(55295 - 128)), 55295);
+        dueFault(letters(number(55296 - 128)), 3);
+        dueFault(letters(number(57343 - 128)), 3);
+        dueDecoded(letters(number(57344 - 128)), 57344);
+        // The second number begins where the first one ended: 0 is one more of the same, 1 the next point before it.
+        dueDecoded("hb9ba", 55295, 55295);
+        dueFault("hb9bb", 4);
+        dueDecoded("dn32ga", TOP, TOP);
+        dueFault("dn32gba", 6);
+        dueFault("a-" + letters(number(2L * (55296 - 128))), 5);
+        dueFault("a-" + letters(number(2L * (57343 - 128) + 1)), 5);
+        dueDecoded("a-" + letters(number(2L * (57344 - 128))), 57344, 'a');
+        dueDecoded("a-" + letters(number(2L * (55295 - 128) + 1)), 'a', 55295);
+        dueDecoded("a-" + letters(number(2L * (TOP - 128) + 1)), 'a', TOP);
+        dueFault("a-" + letters(number(2L * (TOP - 128) + 2)), 6);
+    }
+
+    private static void refusedDecodeChangesNothing() {
+        Told told = NEW.copy().text("ab");
+        for (String s : new String[] {"-a", "a!", "td", "99999999", "hb9bb", "dn32gba", "a\u0080", "\u0080"}) {
+            Names x = told.copy().row(Checks.points(s)).fresh();
+            C.refused("16: decode() of " + s, told.copy().row(Checks.points(s)), Names::decode, x.decode());
+            C.due("16: the row as it was", Checks.row(x), Checks.points(s));
+        }
     }
 
     /** The digits of a first number: bias is 72. */
@@ -151,10 +402,10 @@ public final class LettersTest {
         int[] digits = new int[20];
         int n = 0;
         for (int k = 36;; k += 36) {
-            int t = k <= 72 ? 1 : Math.min(26, k - 72);
+            int t = k <= 72 ? 1 : 26;
             if (q < t) {
                 digits[n++] = digit((int) q);
-                return java.util.Arrays.copyOf(digits, n);
+                return Arrays.copyOf(digits, n);
             }
             digits[n++] = digit((int) (t + (q - t) % (36 - t)));
             q = (q - t) / (36 - t);
@@ -166,6 +417,6 @@ public final class LettersTest {
     }
 
     private static String letters(int[] points) {
-        return new String(points, 0, points.length);
+        return Checks.of(points);
     }
 }

@@ -23,13 +23,14 @@ public final class OraclesTest {
     }
 
     /** Tells up to 100 points with Unicode's own parts: all but the last in one form, and the last. */
-    private static WideNames told(int from, int to, StringBuilder points) {
-        WideNames x = new WideNames();
+    private static Told told(int from, int to, StringBuilder points) {
+        Told told = new Told();
+        Names tried = new Names();
         for (int[] mark : MARKS) {
-            x.rank(mark[0], mark[1]);
+            told.rank(mark[0], mark[1]);
             points.appendCodePoint(mark[0]);
         }
-        for (int p = from; p <= to; p++) {
+        for (int p = from; p <= to && tried.left() > 0; p++) {
             String apart = normal(Character.toString(p), true);
             int[] parts = apart.codePoints().toArray();
             if (parts.length < 2) {
@@ -38,12 +39,14 @@ public final class OraclesTest {
             int last = parts[parts.length - 1];
             String rest = normal(new String(parts, 0, parts.length - 1), false);
             boolean excluded = !normal(apart, false).equals(Character.toString(p));
+            int first = rest.codePointAt(0);
             if (isRanked(last) && rest.codePointCount(0, rest.length()) == 1 && isTold(points, rest)
-                    && x.parts(p, rest.codePointAt(0), last, excluded) > 0) {
+                    && tried.parts(p, first, last, excluded) > 0) {
                 points.appendCodePoint(p);
+                told.parts(p, first, last, excluded);
             }
         }
-        return x;
+        return told;
     }
 
     private static boolean isRanked(int point) {
@@ -64,7 +67,7 @@ public final class OraclesTest {
         int[][] blocks = {{7680, 7935}, {2000, 3000}, {7800, 7930}, {8500, 11000}};
         for (int[] block : blocks) {
             StringBuilder points = new StringBuilder("aAeEoOuUsdDlLrR");
-            WideNames x = told(block[0], block[1], points);
+            Told told = told(block[0], block[1], points);
             points.append("\u1100\u1161\u11a8\uac00\uac01");
             int[] all = points.codePoints().toArray();
             C.due("some points come apart", all.length > 40);
@@ -76,7 +79,7 @@ public final class OraclesTest {
                 }
                 String s = new String(row, 0, row.length);
                 if (staysInTables(s, points)) {
-                    one(x, s, row);
+                    one(told, s, row);
                 }
             }
         }
@@ -88,8 +91,8 @@ public final class OraclesTest {
                 || isTold(points, Character.toString(p)));
     }
 
-    private static void one(WideNames x, String s, int[] row) {
-        Checks.row(x, row);
+    private static void one(Told told, String s, int[] row) {
+        Names x = told.copy().row(row).fresh();
         C.due("13: inForm() of " + s, x.inForm(), normal(s, false).equals(s) ? 1 : 0);
         x.form(0);
         C.due("12: form(0) of " + s, Checks.row(x), Checks.points(normal(s, true)));
@@ -100,7 +103,7 @@ public final class OraclesTest {
 
     private static void letters() {
         Random random = new Random(7);
-        WideNames x = new WideNames();
+        Told x = new Told();
         int[] few = {'a', 'b', 'z', '5', 0xe4, 0xf6, 0xfc, 0x3b1, 0x3c9, 0x431, 0x4e2d, 0x6587, 0x3042, 0x20000};
         for (int i = 0; i < 3000; i++) {
             int[] row = new int[1 + random.nextInt(12)];
@@ -116,12 +119,12 @@ public final class OraclesTest {
 
     private static void octets() {
         int[] edges = {0, 127, 128, 143, 144, 159, 160, 191, 192, 255};
-        WideNames x = new WideNames();
+        Names x = new Names();
         Model m = new Model();
         int wrong = 0;
         for (int two = 0; two < 65536; two++) {
-            wrong += readsAlike(x, m, two, 2) ? 0 : 1;
             for (int c : edges) {
+                x = withCallsLeft(x, 60);
                 wrong += readsAlike(x, m, two * 256L + c, 3) ? 0 : 1;
                 for (int d : edges) {
                     wrong += readsAlike(x, m, (two * 256L + c) * 256 + d, 4) ? 0 : 1;
@@ -131,12 +134,16 @@ public final class OraclesTest {
         C.due("3: texts of octets at the edges that are read otherwise than the model reads them", wrong, 0);
     }
 
-    private static boolean readsAlike(WideNames x, Model m, long v, int n) {
+    private static Names withCallsLeft(Names x, int calls) {
+        return x.left() < calls ? new Names() : x;
+    }
+
+    private static boolean readsAlike(Names x, Model m, long v, int n) {
         x.feed(0, 0);
         x.feed(v, n);
         m.feed(0, 0);
         m.feed(v, n);
         int got = x.read();
-        return got == m.read() && x.point(0) == m.point(0) && x.point(got - 1) == m.point(got - 1);
+        return got == m.read() && (got < 0 || x.point(0) == m.point(0) && x.point(got - 1) == m.point(got - 1));
     }
 }
