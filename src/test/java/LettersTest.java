@@ -48,9 +48,11 @@ public final class LettersTest {
 
     /**
      * Rows and what they are ENCODED, by another program: with numbers at t - 1, t and t + 1, with k - bias of 3, 24 to
-     * 28, and with delta of 454 to 457 once and again when the bias is ADAPTED, the first time and later.
+     * 28, with a first delta of 6300 and 6299 that is / 700, and with delta of 454 to 457 once and again when the bias is
+     * ADAPTED, the first time and later.
      */
     private static final String[][] AT_THE_EDGES = {
+        {"6441 6428", "9efza"}, {"6440 6427", "8efz"}, {"6439 6427", "8efx"}, {"6440 6428", "9efx"},
         {"18680 10949 305 170744", "cfa104sw6s2u04c"},
         {"160106 202780 499875", "2u4ks25vku19a"},
         {"528982 255940 807942", "622sn021k5flv"},
